@@ -17,6 +17,8 @@ public final class FaceTest {
         "rail 1 2;room 2;room 1;room 3;door 0 1;door 1 2 one;picture 1 20;picture 2 60;picture 0 3;group 9 0 first 1;group 9 2 draw 3;",
         "rail 3 0;room 9;picture 0 60;group 20 0 round 0;",
         "rail 1 2;room 2;door 0 0;",
+        "rail 1 0;room 40;room 9;room 9;room 9;room 9;room 9;" + "door 0 5;door 5 4;door 4 3;".repeat(3) + "picture 5 60;".repeat(8)
+            + "group 5 0 draw 0;".repeat(6),
         "rail 2 0;room 4;room 1;door 0 1;picture 1 60;picture 0 9;picture 1 5;picture 0 1;picture 0 7;group 5 9 draw 20;"};
 
     public static void main(String[] args) throws ReflectiveOperationException {

@@ -54,6 +54,9 @@ public final class ForetoldTest {
         Due.is("nothing changes", x.visitor(0, 4), 400);
         x = Due.house("rail 1 0;room 2;picture 0 20;group 2 0 first 1;");
         Due.is("the least that one has", x.seen(120, 1), 320);
+        x = Due.house("rail 9 0;room 9;room 1;door 0 1;picture 1 60;group 1 1 draw 0;group 1 0 draw 0;");
+        Due.is("the first misses one", x.seen(120, 2), 1);
+        Due.is("and sees nothing", x.seen(120, 1), 0);
         x = Due.house("rail 9 0;room 9;room 1;door 0 1;picture 1 60;picture 1 50;picture 0 9;group 3 0 draw 1;");
         Due.is("two wait", x.seen(2, 2), 0);
         Due.is("two miss one", x.seen(3, 2), 2);
@@ -76,6 +79,9 @@ public final class ForetoldTest {
         Due.is("guards, by the least", x.bestRule(40, 1, 1), 3);
         x = Due.house("rail 1 0;room 1;picture 0 1;group 1 0 first 0;");
         Due.is("guards, of several the least", x.bestRule(9, 1, 0), 0);
+        x = Due.house("rail 1 0;room 20;picture 0 60;group 20 0 first 0;");
+        Due.is("rails, the last", x.bestRule(9, 0, 0), 20);
+        Due.is("rails, the last, by the least", x.bestRule(9, 0, 1), 20);
         Due.is("n", x.bestRule(0, 0, 0), BAD);
         Due.is("n", x.bestRule(121, 0, 0), BAD);
         Due.is("of", x.bestRule(1, 2, 0), BAD);
@@ -220,6 +226,13 @@ public final class ForetoldTest {
         Due.is("as far off by first as by round", x.counts(2, 0, 2, 8), 0);
         fill(x, 0, 2, 0, 0, 0, 0, 0, 0, 2, 1);
         Due.is("less far off by round", x.counts(2, 0, 2, 8), 2);
+        // in room 0 all stand behind minute 0, and by round again behind minutes 5, 6
+        fill(x, 0, 0, 4, 0, 0, 0, 0, 4, 4);
+        Due.is("round, in room 0", x.counts(0, 0, 0, 7), 2);
+        fill(x, 0, 0, 4, 0, 0, 0, 0, 4, 0);
+        Due.is("first, in room 0", x.counts(0, 0, 0, 7), 0);
+        fill(x, 0, 0, 0, 0, 0, 0, 4, 0, 0);
+        Due.is("a minute off", x.counts(0, 0, 0, 7), 1);
         fill(x, 0, 2, 0, 30, 30, 30, 30, 0, 0, 0);
         Due.is("far off", x.counts(2, 0, 2, 8), 1);
         Due.is("nothing changes", x.count(6), 0);
@@ -296,5 +309,32 @@ public final class ForetoldTest {
         x.go(9);
         x.restore(0);
         Due.is("minutes", x.count(6), 3);
+        visitorsAreKept();
+    }
+
+    private static void visitorsAreKept() {
+        RailOfHeads x = Due.house("rail 9 0;room 9;room 1;door 0 1;picture 1 60;picture 0 9;group 2 0 first 1;group 1 1 draw 7;");
+        x.go(4);
+        int[][] due = {
+            {0, 1, 0, 1, 1200, 0, 0, 0, 2}, {0, 0, 0, 0, 90, 1, 1, 1, 1}, {1, 0, 0, 5, 0, 0, 0, 0, 0}};
+        visitorsAre(x, due);
+        x.image(0);
+        Due.read(x, "rail 1 0;room 9;picture 0 9;group 1 0 draw 20;group 9 0 draw 20;");
+        x.go(3);
+        x.restore(0);
+        visitorsAre(x, due);
+        Due.is("room(0,1)", x.room(0, 1), 2);
+        Due.is("room(1,1)", x.room(1, 1), 1);
+        Due.is("a house anew", Due.read(x, "rail 9 0;room 9;picture 0 9;group 3 0 first 1;"), 3);
+        Due.is("missed", x.visitor(1, 6), 0);
+        Due.is("out", x.count(7), 0);
+    }
+
+    private static void visitorsAre(RailOfHeads x, int[][] due) {
+        for (int v = 0; v < due.length; v++) {
+            for (int what = 0; what < 9; what++) {
+                Due.is("visitor(" + v + "," + what + ")", x.visitor(v, what), due[v][what]);
+            }
+        }
     }
 }

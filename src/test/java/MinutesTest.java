@@ -95,6 +95,10 @@ public final class MinutesTest {
         visitor(x, 1, 1, 0, 0, 0, 100, 3, 1, NONE, 0);
         x.go(1);
         visitor(x, 1, 1, NONE, 1, 0, 100, 3, 1, NONE, 0);
+        // what he had done with ahead of it stays done with
+        x = Due.house("rail 9 0;room 5;room 1;door 0 1;picture 0 9;picture 1 60;group 2 0 first 0;");
+        x.go(4);
+        visitor(x, 1, 0, 0, 0, 0, 180, 3, 2, NONE, 0);
         // he who goes on makes room for those behind him in the same minute, not for those ahead
         x = Due.house("rail 9 0;room 1;room 1;door 0 1;picture 1 10;group 3 0 first 9;");
         x.go(1);
@@ -148,6 +152,11 @@ public final class MinutesTest {
                 + "picture 3 60;group 1 0 first 0;");
         x.go(2);
         Due.is("the nearer room", x.visitor(0, 1), 2);
+        x = Due.house("rail 9 0;room 9;room 9;room 9;door 0 1;door 1 2;picture 2 1;picture 0 1;group 1 0 round 0;");
+        x.go(6);
+        Due.is("back, not through walls", x.visitor(0, 1), 1);
+        x.go(1);
+        Due.is("and back", x.visitor(0, 1), 0);
     }
 
     private static void theGuardTellsToGoOn() {

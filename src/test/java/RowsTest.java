@@ -3,6 +3,7 @@ public final class RowsTest {
     public static void main(String[] args) {
         rowsAreMade();
         itemsAreCut();
+        itemsAreNothingAtFirst();
         itemsAreCopied();
         rowsAreDropped();
         statusStaysOverRefusals();
@@ -29,10 +30,7 @@ public final class RowsTest {
         Due.is("row(7,2,-1) leaves what is there", x.row(7, 2, -1), Due.SIZE);
         Due.is("copy onto itself", x.copy(7, 39, 7, 0, 1), 1);
         Due.is("row(7,2,40) anew", x.row(7, 2, 40), 40);
-        x.row(6, 2, 1);
-        x.set(6, 0, 31);
-        Due.is("items are 0 at first", x.copy(7, 39, 6, 0, 1), 1);
-        Due.is("count(0)", x.count(0), 3);
+        Due.is("count(0)", x.count(0), 2);
     }
 
     private static void itemsAreCut() {
@@ -73,6 +71,22 @@ public final class RowsTest {
         for (int i = 0; i < due.length(); i++) {
             Due.is("item " + i + " of row " + row + " is above 30", got[i], due.charAt(i) - '0');
         }
+    }
+
+    private static void itemsAreNothingAtFirst() {
+        RailOfHeads x = Due.house("rail 1 0;room 2;picture 0 20;group 3 0 first 1;");
+        x.row(0, 0, 3);
+        x.set(0, 1, 99);
+        x.set(0, 2, 99);
+        bad(x, 0, "011");
+        x.row(0, 0, 3);
+        bad(x, 0, "000");
+        x.set(0, 1, 99);
+        Due.is("row that is refused", x.row(0, 0, -1), Due.SIZE);
+        bad(x, 0, "010");
+        x.drop(0);
+        x.row(0, 0, 3);
+        bad(x, 0, "000");
     }
 
     private static void itemsAreCopied() {

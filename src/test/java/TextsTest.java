@@ -9,6 +9,7 @@ public final class TextsTest {
         numbersHaveBounds();
         thereIsRoomForSoMany();
         faultsChangeNothing();
+        bytesReadAreGone();
         Due.end();
     }
 
@@ -74,6 +75,8 @@ public final class TextsTest {
         fault("Rail 1 0;", 0, 1);
         fault("rails 1 0;", 0, 1);
         fault("rai 1 0;", 0, 1);
+        fault("mail 1 0;", 0, 1);
+        fault("rain 1 0;", 0, 1);
         fault("rail x 0;", 5, 1);
         fault("rail 1;", 6, 1);
         fault("rail 1 0 0;", 9, 1);
@@ -153,5 +156,35 @@ public final class TextsTest {
         Due.is("the latest fault stays", x.fault(), 2);
         Due.is("minutes", x.count(6), 0);
         Due.is("in the room", x.room(0, 1), 0);
+    }
+
+    private static void bytesReadAreGone() {
+        RailOfHeads x = Due.house("rail 1 0;room 2;picture 0 20;group 3 0 first 1;");
+        Due.is("no name goes on in what was", Due.read(x, "ra"), -1000100);
+        Due.is("no number goes on in what was", Due.read(x, "rail 20 "), -1000108);
+        Due.read(x, "rail 1 0;room 2;picture 0 20;group 3 0 first 11    ");
+        Due.is("fault", x.fault(), 1);
+        Due.is("blanks end with the tape", Due.read(x, "rail 1 0;room 2;picture 0 20;group 3 0 first 1 "), -1000147);
+        Due.is("the number is the one that is there", Due.read(x, "rail 1 0;room 2;picture 0 20;group 3 0 first 1;"), 3);
+        Due.is("patience", x.visitor(0, 3), 1);
+        for (int round = 0; round < 2; round++) {
+            Due.is("a full tape of blanks", Due.read(x, " \n".repeat(200)), -1000500);
+            Due.is("a full tape of one name", Due.read(x, "rail".repeat(100)), -1000100);
+            Due.is("a full tape of one number", Due.read(x, "7".repeat(400)), -1000100);
+            Due.is("a number at the end", Due.read(x, "rail" + " ".repeat(393) + "20 "), -1000500);
+            Due.is("a number at the end", Due.read(x, "rail" + " ".repeat(394) + "20"), -1000500);
+            Due.is("a name at the end", Due.read(x, " ".repeat(396) + "rail"), -1000500);
+            Due.is("a name cut off", Due.read(x, " ".repeat(397) + "rai"), -1000497);
+        }
+        String text = "rail 1 0;room 2;picture 0 20;group 3 0 first 1";
+        Due.is("a text that ends with the tape", Due.read(x, text + " ".repeat(399 - text.length()) + ";"), 3);
+        Due.read(x, "rail 1 0;room 2;picture 0 20;group 3 0 first 15");
+        Due.is("a number that goes on in what was", Due.read(x, "rail 1 0;room 2;picture 0 20;group 3 0 first 1"), -1000146);
+        Due.is("rail", Due.read(x, "rail 20"), -1000107);
+        Due.is("a number below what was", Due.read(x, "rail 2"), -1000106);
+        Due.is("another number", Due.read(x, "rail 99"), -1000105);
+        Due.is("9, of 99", Due.read(x, "rail 9"), -1000106);
+        Due.is("a name below what was", Due.read(x, "rails"), -1000100);
+        Due.is("rail, of rails", Due.read(x, "rail"), -1000104);
     }
 }
