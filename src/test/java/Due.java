@@ -5,15 +5,21 @@ final class Due {
     static final int LEAST = Integer.MIN_VALUE, MOST = Integer.MAX_VALUE;
 
     private static int wrong = 0;
+    private static String test = "";
 
     private Due() {
+    }
+
+    /** Names the test that what follows belongs to. */
+    static void within(String name) {
+        test = name.isEmpty() ? "" : name + ": ";
     }
 
     static void is(String call, long got, long due) {
         if (got != due) {
             wrong++;
             if (wrong <= 50) {
-                System.out.println(call + " answered " + got + ", due is " + due);
+                System.out.println(test + call + " answered " + got + ", due is " + due);
             }
         }
     }
