@@ -144,6 +144,19 @@ final class Model {
         return best;
     }
 
+    /** What visitor() tells of one, by what. */
+    int[] toldOf(Visitor v) {
+        int aim = aim(v);
+        return new int[] {v.group, v.out || v.room < 0 ? NONE : v.room, v.out ? 1 : 0, v.patience, v.saw, v.done,
+            v.missed, aim, aim == NONE ? 0 : v.looked[aim]};
+    }
+
+    /** What count() tells, by what, of 1 to 7. */
+    int[] counted() {
+        return new int[] {told.holds.size(), told.doors.size(), told.pictures.size(), told.groups.size(),
+            visitors.size(), minute, out()};
+    }
+
     private int worth(Visitor v, int p) {
         return told.pictures.get(p).draw - 5 * told.far(v.room, told.pictures.get(p).room);
     }

@@ -7,18 +7,18 @@ import java.util.Random;
 public final class ModelTest {
     private static final String[] LAWS = {"first", "draw", "round"};
 
-    private final Random random;
+    private final MadeUp madeUp;
     private final String name;
     private final RailOfHeads x = new RailOfHeads();
     private Model model;
     private final Model[] images = new Model[2];
 
     private ModelTest(int seed) {
-        random = new Random(seed);
+        madeUp = new MadeUp(new Random(seed));
         name = "seed " + seed + ": ";
     }
 
-    public static void main(String[] args) {
+    public static void main(String[] args) throws Text.Fault {
         int runs = args.length > 0 ? Integer.parseInt(args[0]) : 60;
         for (int seed = 0; seed < runs; seed++) {
             new ModelTest(seed).run();
@@ -27,10 +27,10 @@ public final class ModelTest {
     }
 
     private int below(int n) {
-        return random.nextInt(n);
+        return madeUp.below(n);
     }
 
-    private void run() {
+    private void run() throws Text.Fault {
         readHouse();
         for (int i = 0; i < 30; i++) {
             change();
@@ -39,47 +39,13 @@ public final class ModelTest {
         foretell();
     }
 
-    private void readHouse() {
-        Model.Told told = new Model.Told();
-        boolean tight = below(2) == 0;
-        StringBuilder text = new StringBuilder();
-        told.rail = 1 + below(tight ? 3 : 20);
-        told.guard = below(3) == 0 ? 0 : below(tight ? 6 : 21);
-        text.append("rail ").append(told.rail).append(' ').append(told.guard).append(';');
-        int rooms = 1 + below(6), doors = rooms == 1 ? 0 : below(10), pictures = 1 + below(8), groups = 1 + below(6);
-        for (int i = 0; i < rooms; i++) {
-            told.holds.add(1 + below(tight ? 4 : 40));
-            text.append("room ").append(told.holds.get(i)).append(';');
-        }
-        for (int i = 0; i < doors; i++) {
-            int a = below(rooms), b = (a + 1 + below(rooms - 1)) % rooms;
-            boolean one = below(3) == 0;
-            told.doors.add(new Model.Door(a, b, one));
-            text.append("door ").append(a).append(' ').append(b).append(one ? " one;" : ";");
-        }
-        for (int i = 0; i < pictures; i++) {
-            int draw = 1 + below(below(3) == 0 ? 60 : 20), room = below(rooms);
-            told.pictures.add(new Model.Picture(room, draw, 2 + draw / 10));
-            text.append("picture ").append(room).append(' ').append(draw).append(';');
-        }
-        int left = 30;
-        for (int i = 0; i < groups && left > 0; i++) {
-            int many = 1 + below(Math.min(left, below(2) == 0 ? 20 : 5));
-            left -= many;
-            Model.Group g = new Model.Group(many, below(below(4) == 0 ? 61 : 12), LAWS[below(3)], below(tight ? 5 : 21));
-            told.groups.add(g);
-            text.append("group ").append(many).append(' ').append(g.minute()).append(' ').append(g.law())
-                    .append(' ').append(g.patience()).append(';');
-        }
-        if (text.length() > 400) {
-            readHouse();
-            return;
-        }
-        model = new Model(told);
-        is("house() of " + text, Due.read(x, text.toString()), model.visitors.size());
+    private void readHouse() throws Text.Fault {
+        String text = madeUp.house();
+        model = new Model(Text.read(text));
+        is("house() of " + text, Due.read(x, text), model.visitors.size());
     }
 
-    private void change() {
+    private void change() throws Text.Fault {
         int k = below(2);
         switch (below(14)) {
             case 0:
@@ -112,11 +78,12 @@ public final class ModelTest {
     }
 
     private void compare() {
-        int[] counts = {0, model.told.holds.size(), model.told.doors.size(), model.told.pictures.size(),
-            model.told.groups.size(), model.visitors.size(), model.minute, model.out(), 0};
-        for (int what = 0; what < counts.length; what++) {
-            is("count(" + what + ")", x.count(what), counts[what]);
+        int[] counted = model.counted();
+        for (int what = 1; what <= counted.length; what++) {
+            is("count(" + what + ")", x.count(what), counted[what - 1]);
         }
+        is("count(0)", x.count(0), 0);
+        is("count(8)", x.count(8), 0);
         for (int a = 0; a < model.told.holds.size(); a++) {
             is("room(" + a + ",0)", x.room(a, 0), model.told.holds.get(a));
             is("room(" + a + ",1)", x.room(a, 1), model.inside(a));
@@ -132,9 +99,7 @@ public final class ModelTest {
     }
 
     private void compareVisitor(int number, Model.Visitor v) {
-        int aim = model.aim(v);
-        int[] due = {v.group, v.out || v.room < 0 ? Due.NONE : v.room, v.out ? 1 : 0, v.patience, v.saw, v.done,
-            v.missed, aim, aim == Due.NONE ? 0 : v.looked[aim]};
+        int[] due = model.toldOf(v);
         for (int what = 0; what < due.length; what++) {
             is("visitor(" + number + "," + what + ")", x.visitor(number, what), due[what]);
         }
